@@ -265,10 +265,10 @@ public final class LoadBook {
             return NONE;
         }
         Code code = cells[cell].code;
-        if (code == null || i < 0 || i >= code.orderSize) {
+        if (code == null || i < 0 || i >= code.needCount) {
             return NONE;
         }
-        return code.order[i];
+        return code.needList[i];
     }
 
     public int neededBy(int cell, int i) {
@@ -658,10 +658,10 @@ public final class LoadBook {
         final byte[] orders;
         final long[] operands;
         final Text printed;
-        final int[] order;
+        final int[] needList;
         final long[] needBits = new long[SHEETS];
         int size;
-        int orderSize;
+        int needCount;
         int parts;
         int calls;
         long name;
@@ -672,12 +672,12 @@ public final class LoadBook {
             orders = new byte[Math.max(room, 0)];
             operands = new long[Math.max(room, 0)];
             printed = new Text(printRoom);
-            order = new int[Math.max(needRoom, 0)];
+            needList = new int[Math.max(needRoom, 0)];
         }
 
         void restart() {
             size = 0;
-            orderSize = 0;
+            needCount = 0;
             parts = 0;
             calls = 0;
             printed.size = 0;
@@ -718,12 +718,12 @@ public final class LoadBook {
         }
 
         void addNeed(int cell) {
-            if (noCell(cell) || hasNeed(cell) || orderSize >= order.length) {
+            if (noCell(cell) || hasNeed(cell) || needCount >= needList.length) {
                 return;
             }
             needBits[cell >> 6] |= 1L << (cell & 63);
-            order[orderSize] = cell;
-            orderSize++;
+            needList[needCount] = cell;
+            needCount++;
         }
 
         boolean hasNeed(int cell) {
@@ -746,14 +746,14 @@ public final class LoadBook {
 
         /** A copy that has just the room it needs: the draft is used again. */
         Code kept() {
-            Code copy = new Code(size, printed.size, orderSize);
+            Code copy = new Code(size, printed.size, needCount);
             System.arraycopy(orders, 0, copy.orders, 0, size);
             System.arraycopy(operands, 0, copy.operands, 0, size);
-            System.arraycopy(order, 0, copy.order, 0, orderSize);
+            System.arraycopy(needList, 0, copy.needList, 0, needCount);
             System.arraycopy(needBits, 0, copy.needBits, 0, SHEETS);
             copy.printed.become(printed);
             copy.size = size;
-            copy.orderSize = orderSize;
+            copy.needCount = needCount;
             copy.parts = parts;
             copy.calls = calls;
             return copy;
@@ -1265,8 +1265,12 @@ public final class LoadBook {
 
         private int rangeEnd() {
             int cell = lexer.cell;
-            copyToken(lexer.place);
-            expect(Lexer.REF);
+            if (lexer.token == Lexer.REF) {
+                copyToken(lexer.place);
+                lexer.advance();
+            } else {
+                lexer.refuse(2);
+            }
             return cell;
         }
 
@@ -2152,8 +2156,8 @@ public final class LoadBook {
                 return false;
             }
             boolean stale = one.told || (code.calls & staleFunctions) != 0;
-            for (int k = 0; k < code.orderSize && !stale; k++) {
-                stale = cells[code.order[k]].told;
+            for (int k = 0; k < code.needCount && !stale; k++) {
+                stale = cells[code.needList[k]].told;
             }
             return stale;
         }

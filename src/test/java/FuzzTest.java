@@ -7,17 +7,44 @@ public final class FuzzTest {
     private static final String[] NAMES = {"a", "b", "c", "x", "draft", "longname", "f", "g"};
     private static final String[] FUNCS = {"f", "g", "h", "trim", "a", "heel", "k", "m", "n"};
 
+    /** Texts that come where random ones seldom do: roots, deep and long work, great and tiny DOUBLES. */
+    private static final String[] GIVEN_FUNCTIONS = {
+        "f(a)=a*a-2.0", "f(a)=a*a*a-a-1", "f(x)=if(x<0.0,-1,1)", "f(a)=(a-3.25)*1000000",
+        "g(a)=if(a<1,0,g(a-1)+g(a-2)+1)", "g(a)=if(a<=0,0,g(a-1)+1)", "g(a)=g(a+1)", "g(a)=try(g(a+1),a)",
+        "g(a)=root(f,a,100)", "g(a)=try(try(try(g(a+1),1/0),a%0),a)", "g(a)=g(g(a-1))", "g(x)=1/x+f(x)",
+        "h(a)=a*a*a*a*a*a*a*a*a*a*a", "h(a)=1.0/a/a/a/a/a/a/a/a/a/a/a", "h(a)=root(g,-a,a)", "h(a)=h(-a)+1.5",
+        "h(a)=f(a)+root(f,0,a)", "trim(a,b)=a*b-b", "trim(a,b)=if(a<b,trim(a+1,b),a)", "a(a,b,c)=a-b*c",
+        "a(a,b,c)=if(a,a(a-1,c,b),b-c)", "heel(a)=f(a)", "k(a)=heel(a)", "m(a)=k(a)/3", "n(a)=a",
+    };
+    private static final String[] GIVEN_CONSTANTS = {
+        "a=1.5", "a=3", "b=a*2", "b=f(1.5)", "b=g(4)", "c=1/0", "c=root(f,0.0,2)", "c=g(99)", "c=h(900000000000)",
+        "x=a+b", "x=try(1%0,b)", "draft=7", "longname=h(0.000001)", "f=h(h(12))", "g=1-1",
+    };
+    private static final String[] GIVEN_FORMULAS = {
+        "root(f,0,2)", "root(f,-1.5,9)", "try(g(25),0-1)", "g(19)", "g(20)", "g(21)", "g(8)", "g(30)", "try(g(30),5)",
+        "h(Aa0)", "h(h(Aa0))", "1.0/h(Aa0)", "h(Aa0)%Ab0", "h(Aa0)%(1.0/h(Ab0))", "(1.0/h(Aa0))%(1.0/h(Ab0*3.0))",
+        "h(Aa1)*h(Aa0)", "-h(Aa0)-h(Aa0)*9", "sum(Aa0:Ah7)+sum(Aa0:Ah7)", "line(Aa0,Aa0:Ac0,Aa1:Ac1)",
+        "line(Ab0,Aa0:Ad0,Aa1:Ad1)", "area(Aa0:Ah0,Aa1:Ah1)", "area(Aa0:Ac0,Aa2:Ac2)", "cut(h(Aa0))",
+        "sum(Aa0:Ah3)", "least(Aa0:Ah3)", "most(Aa0:Ah3)", "count(Aa0:Ah7)", "at(Aa0:Ac2,Aa0%9)", "at(Aa0:Ac2,8)",
+        "if(Aa0<Ab0,Ac0,Aa1)", "root(h,-Aa0,Ab0)", "root(n,0.0-h(Aa0),h(Aa0))", "try(Aa0%0,Ab0)%0.75",
+        "line(h(1.5),Aa0:Ab1,Ac0:Ad1)", "area(Aa0:Ab0,Aa1:Ab2)", "line(1,Aa0:Aa0,Ab0:Ab0)", "a(Aa0,Ab0,Ac0)",
+        "trim(Aa0,Ab0)", "f(Aa0)+m(Ab0)", "a+b", "draft*longname", "x", "g(Aa0)+try(g(Ab0),1)", "-(-Aa0*0.0)",
+        "try(try(g(99),sum(Aa0:Ah7)),7)", "sum(Ba0:Bh7)", "try(Ba0,Ca0)", "Aa0*1.0", "(-Aa0)%7.5", "real(Aa0)/Ab0",
+    };
     private final Random random;
     private final LoadBook book = new LoadBook();
     private final Model model = new Model();
     private final StringBuilder log = new StringBuilder();
     private final int span;
+    /** How many of a hundred texts are given ones. */
+    private final int given;
     private int calls;
     private int wrong;
 
     private FuzzTest(long seed) {
         random = new Random(seed);
         span = random.nextInt(3) == 0 ? 256 : random.nextBoolean() ? 12 : 30;
+        given = random.nextInt(2) == 0 ? 0 : 20 + random.nextInt(60);
     }
 
     public static void main(String[] args) {
@@ -48,6 +75,9 @@ public final class FuzzTest {
 
     private void run() {
         try {
+            if (given > 0) {
+                fillCells();
+            }
             while (calls < 480 && wrong == 0) {
                 turn();
             }
@@ -60,6 +90,17 @@ public final class FuzzTest {
                 }
             }
         }
+    }
+
+    private void fillCells() {
+        boolean rising = pick(2) == 0;
+        long v = pick(5) - 2;
+        for (int c = 0; c < 24 + pick(40); c++) {
+            v = rising ? v + 1 + pick(9) : pick(1000) - 300;
+            int e = pick(3) == 0 ? pick(3) : 0;
+            due("number(" + c + ", " + v + ", " + e + ")", book.number(c, v, e), model.number(c, v, e));
+        }
+        calls = 0;
     }
 
     private int pick(int n) {
@@ -136,7 +177,7 @@ public final class FuzzTest {
 
     private void tellFormula() {
         int c = cell();
-        String text = blanks(mutate(e(pick(4), 0)));
+        String text = blanks(mutate(isGiven() ? GIVEN_FORMULAS[pick(GIVEN_FORMULAS.length)] : e(pick(4), 0)));
         log.append("  ").append(text).append('\n');
         type(text);
         due("formula(" + c + ")", book.formula(c), model.formula(c));
@@ -146,13 +187,18 @@ public final class FuzzTest {
         }
     }
 
+    private boolean isGiven() {
+        return pick(100) < given;
+    }
+
     private void tellFunction() {
         int n = 1 + (pick(3) == 0 ? pick(4) : 0);
         StringBuilder head = new StringBuilder(FUNCS[pick(pick(2) == 0 ? 3 : 9)]).append('(');
         for (int i = 0; i < n; i++) {
             head.append(i > 0 ? "," : "").append(pick(20) == 0 ? NAMES[pick(4)] : NAMES[i]);
         }
-        String text = blanks(mutate(head + ")=" + e(pick(4), 2)));
+        String random = head + ")=" + e(pick(4), 2);
+        String text = blanks(mutate(isGiven() ? GIVEN_FUNCTIONS[pick(GIVEN_FUNCTIONS.length)] : random));
         log.append("  ").append(text).append('\n');
         type(text);
         due("function()", book.function(), model.function());
@@ -161,7 +207,8 @@ public final class FuzzTest {
 
     private void tellConstant() {
         int sheet = pick(30) == 0 ? 4 - 5 * pick(2) : pick(3) == 0 ? pick(4) : 0;
-        String text = blanks(mutate(NAMES[pick(pick(4) == 0 ? 8 : 4)] + "=" + e(pick(3), 1)));
+        String random = NAMES[pick(pick(4) == 0 ? 8 : 4)] + "=" + e(pick(3), 1);
+        String text = blanks(mutate(isGiven() ? GIVEN_CONSTANTS[pick(GIVEN_CONSTANTS.length)] : random));
         log.append("  ").append(text).append('\n');
         type(text);
         due("constant(" + sheet + ")", book.constant(sheet), model.constant(sheet));
