@@ -534,5 +534,12 @@ public final class TellingTest extends Checks {
         due("too long", x.take(), -2);
         due("THE TEXT stays", x.count(5), 1);
         due("formula", x.formula(3), 1);
+        tell(6, times(11, "99999999999999999+") + "1234567+1234567890");
+        due("240", x.print(6), 240);
+        due("take", x.take(), 240);
+        due("twelve brackets in one another", x.formula(7), -103);
+        tell(6, times(11, "99999999999999999+") + "1234567+12345678901");
+        due("241", x.print(6), 241);
+        due("take", x.take(), -2);
     }
 }

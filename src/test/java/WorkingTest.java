@@ -19,6 +19,7 @@ public final class WorkingTest extends Checks {
         new WorkingTest("16 value, guards").guards();
         new WorkingTest("16 value, R").ranges();
         new WorkingTest("16 value, line").lines();
+        new WorkingTest("16 value, R of 64 cells").wholeSheets();
         new WorkingTest("16 value, area").areas();
         new WorkingTest("16 value, root").roots();
         new WorkingTest("17 failure").failures();
@@ -146,6 +147,22 @@ public final class WorkingTest extends Checks {
         function("f(b)=zz", -104);
         again();
         due("count(13)", x.count(13), 3);
+        // The longest way, against the numbers.
+        x = new LoadBook();
+        for (char c = 'a'; c <= 'h'; c++) {
+            function(c + "(x)=x", c - 'a');
+        }
+        for (char c = 'a'; c < 'h'; c++) {
+            function(c + "(x)=" + (char) (c + 1) + "(x)", c - 'a');
+        }
+        tell(0, "a(1)");
+        tell(1, "b(1)");
+        again(0, 1);
+        function("h(x)=x+1", 7);
+        again(0, 1);
+        due("value(0)", x.value(0), 2);
+        function("a(x)=x", 0);
+        again(0);
     }
 
     private void states() {
@@ -285,6 +302,7 @@ public final class WorkingTest extends Checks {
         gives("p(Aa0)*(real(Ab0)/4503599627370496*32767)*1.0", Math.scalb(Math.nextDown(2.0) * 32767, 1008));
         gives("p(Aa0)*(real(Ab0)/4503599627370496)*16384*1.0", GREATEST / 2);
         gives("p(Aa0)*(real(Ab0)/4503599627370496)*16384+p(Aa0)*(real(Ab0)/4503599627370496)*16384", GREATEST);
+        gives("-p(Aa0)*(real(Ab0)/4503599627370496)*16384-p(Aa0)*(real(Ab0)/4503599627370496)*16384", -GREATEST);
         gives("1/p(Aa0)", Math.scalb(1.0, -1008));
         gives("1/p(Aa0)/16384", Double.MIN_NORMAL);
         gives("1/p(Aa0)/32768", Double.MIN_NORMAL / 2);
@@ -341,6 +359,9 @@ public final class WorkingTest extends Checks {
         gives("f(0)+f(1)*10", 9);
         function("g(a)=1/a", 1);
         gives("3+try(2*g(g(0)),7)", 10);
+        // Nine tries in each of twenty-one E that are under way.
+        function("h(a)=" + times(9, "try(") + "h(a+1)" + times(8, ",1/0)") + ",a)", 2);
+        gives(times(9, "try(") + "h(1)" + times(8, ",1/0)") + ",99)", 20);
     }
 
     private void ranges() {
@@ -349,6 +370,10 @@ public final class WorkingTest extends Checks {
         x.number(17, 15, 1);
         x.whole(18, 9);
         gives("sum(Ab1:Ac1)", 2);
+        gives("10-sum(Ab1:Ac1)*5", 0);
+        gives("10-least(Ab1:Ac1)*5", 20);
+        gives("10-most(Ab1:Ac1)*count(Aa0:Ah7)", -6);
+        gives("100-at(Ab1:Ac1,1)*5", 110);
         gives("sum(Ab1:Ac2)", 12.5);
         gives("sum(Aa0:Ah7)", 12.5);
         gives("sum(Ag6:Ah7)", 0);
@@ -414,7 +439,7 @@ public final class WorkingTest extends Checks {
         fails("line(1,Aa0:Ad0,Ae1:Ah1)", 3);
         fails("line(1/0,Aa0:Aa0,Aa1:Aa1)", 1);
         // Read by rows: 0 1 5 7 is a table's R too.
-        fails("line(1,Aa0:Ab1,Aa0:Ad0)".replace("Aa0:Ab1", "Ac0:Ad1"), 7);
+        fails("line(1,Ac0:Ad1,Aa0:Ad0)", 7);
         gives("line(6,Aa0:Ab1,Aa0:Ad0)", 6.5);
         row(1, 0);
         fails("line(1,Aa0:Ad0,Aa1:Ad1)", 7);
@@ -426,10 +451,31 @@ public final class WorkingTest extends Checks {
         x.number(63, Long.MIN_VALUE, 0);
         tell(16, "-p(Ah7)*32768");
         tell(17, "p(Ah7)*32768");
-        gives("line(0,Aa2:Ab2,Aa0:Ab0)".replace("line(0,", "line(p(Ah7)*32768,"), 2.0);
+        gives("line(p(Ah7)*32768,Aa2:Ab2,Aa0:Ab0)", 2.0);
         fails("line(0,Aa2:Ab2,Aa0:Ab0)", 5);
         fails("line(1,Aa0:Ab0,Aa2:Ab2)", 5);
         fails("line(0.000001,Aa0:Ab0,Aa2:Ab2)", 5);
+        // At its ends, and where x is one of R, no other number is looked at.
+        gives("line(0,Aa0:Ab0,Aa2:Ab2)", -Math.scalb(1.0, 1023));
+        gives("line(2,Aa0:Ab0,Aa2:Ab2)", Math.scalb(1.0, 1023));
+        row(0, 0, 1, 3);
+        x.number(8, 10000000000000000L, 0);
+        x.number(9, 1, 1);
+        gives("line(1,Aa0:Ac0,Aa1:Ac1)", 0.1);
+        gives("line(1.0,Aa0:Ab0,Aa1:Ab1)", 0.1);
+    }
+
+    private void wholeSheets() {
+        for (int i = 0; i < 64; i++) {
+            x.whole(i, 2L * i);
+            x.whole(64 + i, 100L - i);
+        }
+        gives("line(101,Aa0:Ah7,Ba0:Bh7)", 49.5);
+        gives("line(999,Aa0:Ah7,Ba0:Bh7)", 37.0);
+        gives("area(Aa0:Ah7,Ba0:Bh7)", 126 * 137 / 2.0);
+        gives("sum(Aa0:Ah7)", 63 * 64);
+        gives("at(Aa0:Ah7,63)", 126);
+        fails("at(Aa0:Ah7,64)", 2);
     }
 
     private void areas() {
@@ -596,6 +642,13 @@ public final class WorkingTest extends Checks {
         due("a try takes what was read", x.value(3), 6);
         due("a try takes what was read", x.value(4), 7);
         broken(5, 3, 8, 5, 0);
+        // A try that a SPENT went by takes nothing later.
+        tell(6, "1/0");
+        tell(5, "try(t(1)+t(1)+t(1)+t(1)+t(1),5)");
+        tell(7, "3+Ag0");
+        x.recalculate();
+        broken(6, 3, 1, 6, 0);
+        broken(7, 5, 1, 6, 0);
         constant(2, "k=t(1)+t(1)+t(1)+t(1)+t(1)", 0);
         tell(128, "1");
         x.recalculate();
@@ -733,6 +786,26 @@ public final class WorkingTest extends Checks {
         again(40);
         broken(40, 4, 9, 40, 0);
         readsAre(40);
+        // As many as there can be, and as many cells.
+        x = new LoadBook();
+        for (int c = 0; c < 48; c++) {
+            tell(c, "A" + (char) ('a' + c % 8) + c / 8);
+        }
+        due("recalculate()", x.recalculate(), 48);
+        due("count(4)", x.count(4), 48);
+        for (int c = 0; c < 48; c++) {
+            due("done(" + c + ")", x.done(c), c);
+            due("cycle(" + c + ", 0)", x.cycle(c, 0), c);
+            due("cycle(" + c + ", 1)", x.cycle(c, 1), -1);
+        }
+        for (int c = 0; c < 48; c++) {
+            tell(c, "sum(Aa0:Ah5)");
+        }
+        due("recalculate()", x.recalculate(), 48);
+        due("count(4)", x.count(4), 1);
+        due("the last", x.cycle(0, 47), 47);
+        due("no more", x.cycle(0, 48), -1);
+        broken(47, 4, 9, 0, 0);
     }
 
     private void traces() {
