@@ -25,12 +25,17 @@ class Checks {
         }
     }
 
+    /** A text as the LONGS that type() takes. */
+    static long[] packed(String text) {
+        long[] all = new long[(text.length() + 7) / 8];
+        for (int i = 0; i < text.length(); i++) {
+            all[i / 8] |= (long) (text.charAt(i) & 255) << (8 * (i % 8));
+        }
+        return all;
+    }
+
     void type(String text) {
-        for (int i = 0; i < text.length(); i += 8) {
-            long bytes = 0;
-            for (int k = 0; k < 8 && i + k < text.length(); k++) {
-                bytes |= (long) (text.charAt(i + k) & 255) << (8 * k);
-            }
+        for (long bytes : packed(text)) {
             x.type(bytes);
         }
     }

@@ -375,7 +375,10 @@ public final class FuzzTest {
         }
     }
 
-    /** Looks at every cell without counting it as calls: what is looked at does not change. */
+    /**
+     * Looks at every cell without counting it as calls: what is looked at does not change. So a book here
+     * answers more than the 512 calls that the document promises; LoadBook does not count them.
+     */
     private void look() {
         int before = calls;
         int mark = log.length();

@@ -32,6 +32,8 @@ public final class TellingTest extends Checks {
             due("state(" + c + ")", x.state(c), 0);
             due("value(" + c + ")", x.value(c), 0);
         }
+        // An object is used for 512 calls at most.
+        x = new LoadBook();
         for (int what = 0; what < 15; what++) {
             due("count(" + what + ")", x.count(what), 0);
         }
@@ -468,14 +470,15 @@ public final class TellingTest extends Checks {
         due("no FORMULA", x.print(0), -3);
         x.whole(0, 3);
         due("a VALUE", x.print(0), -3);
-        constant(3, "k=1", 0);
-        function("f(a)=a", 0);
-        function("g(a,b,c)=a", 1);
         printed("007", "7");
         printed("000", "0");
         printed("10", "10");
         printed("00.500", "0.500");
         printed("012.0", "12.0");
+        x = new LoadBook();
+        constant(3, "k=1", 0);
+        function("f(a)=a", 0);
+        function("g(a,b,c)=a", 1);
         printed(" 1 + 2 * 3 - 4 ", "((1+(2*3))-4)");
         printed("1*2/3%4", "(((1*2)/3)%4)");
         printed("1-(2-3)", "(1-(2-3))");
@@ -485,6 +488,9 @@ public final class TellingTest extends Checks {
         printed("1+2 <= 3*4", "((1+2)<=(3*4))");
         printed("(1<2)=(3<>4)", "((1<2)=(3<>4))");
         printed("if(1,(2),try(k,Aa0))", "if(1,2,try(k,Aa0))");
+        x = new LoadBook();
+        function("f(a)=a", 0);
+        function("g(a,b,c)=a", 1);
         printed("sum( Aa0 : Ah7 )", "sum(Aa0:Ah7)");
         printed("least(Aa0:Ab0)+most(Aa0:Ab0)", "(least(Aa0:Ab0)+most(Aa0:Ab0))");
         printed("at(Aa0:Ab0,1+1)", "at(Aa0:Ab0,(1+1))");
